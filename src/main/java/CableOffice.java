@@ -102,7 +102,7 @@ public final class CableOffice {
 
     public int crossingsAnew(int one, int other) throws IndexOutOfBoundsException {
         demandCables(one, other);
-        return one == other ? 0 : countCrossings(routes[one], routes[other]);
+        return one == other ? 0 : countCrossings(routes[one], routes[other], false);
     }
 
     public boolean isWell(int one, int other) throws IndexOutOfBoundsException {
@@ -267,27 +267,15 @@ public final class CableOffice {
 
     private void recount(int one, int other) {
         int pair = pairOf(one, other);
-        crossed[pair] = countCrossings(routes[one], routes[other]);
-        crossedSteeply[pair] = countSteepCrossings(routes[one], routes[other]);
+        crossed[pair] = countCrossings(routes[one], routes[other], false);
+        crossedSteeply[pair] = countCrossings(routes[one], routes[other], true);
     }
 
-    private static int countCrossings(Route one, Route other) {
+    private static int countCrossings(Route one, Route other, boolean steepAlone) {
         int count = 0;
         for (int k = 0; k < one.pieces(); k++) {
             for (int m = 0; m < other.pieces(); m++) {
-                if (one.pieceCrosses(k, other, m)) {
-                    count++;
-                }
-            }
-        }
-        return count;
-    }
-
-    private static int countSteepCrossings(Route one, Route other) {
-        int count = 0;
-        for (int k = 0; k < one.pieces(); k++) {
-            for (int m = 0; m < other.pieces(); m++) {
-                if (one.pieceCrosses(k, other, m) && one.pieceIsSteepTo(k, other, m)) {
+                if (one.pieceCrosses(k, other, m) && (!steepAlone || one.pieceIsSteepTo(k, other, m))) {
                     count++;
                 }
             }
