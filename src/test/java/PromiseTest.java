@@ -43,30 +43,6 @@ public final class PromiseTest {
         Check.end("PromiseTest");
     }
 
-    // ---- helpers
-
-    /** Lays a cable by its points, x and y in turn. */
-    private static int cable(CableOffice office, int... places) {
-        for (int k = 0; k + 1 < places.length; k += 2) {
-            office.draft(places[k], places[k + 1]);
-        }
-        return office.lay();
-    }
-
-    /** An office with cable 0 from (0, 4) to (9, 4), then as many upright ones at x 1, 2, .. as asked. */
-    private static CableOffice comb(int uprights) {
-        CableOffice office = new CableOffice();
-        cable(office, 0, 4, 9, 4);
-        for (int k = 1; k <= uprights; k++) {
-            cable(office, k, 0, k, 9);
-        }
-        return office;
-    }
-
-    private static int everywhere(CableOffice office, int from, int to) {
-        return office.ground(0, 0, 99, 99, from, to);
-    }
-
     // ---- promise 1
 
     private static void newObject() {
@@ -78,10 +54,10 @@ public final class PromiseTest {
         Check.fails("1: crossings", NO_SUCH, () -> office.crossings(0, 0));
         Check.fails("1: paid", NO_SUCH, () -> office.paid(0));
         Check.same("1: draft", office.draft(0, 0), 1);
-        Check.same("1: ground", everywhere(office, 0, 0), 0);
+        Check.same("1: ground", Offices.everywhere(office, 0, 0), 0);
         CableOffice other = new CableOffice();
         Check.same("1: draft of another object", other.draft(0, 0), 1);
-        Check.same("1: ground of another object", everywhere(other, 0, 0), 0);
+        Check.same("1: ground of another object", Offices.everywhere(other, 0, 0), 0);
     }
 
     // ---- promise 2
@@ -122,7 +98,7 @@ public final class PromiseTest {
 
     private static void lay() {
         CableOffice office = new CableOffice();
-        Check.same("3: the first", cable(office, 1, 2, 3, 4), 0);
+        Check.same("3: the first", Offices.cable(office, 1, 2, 3, 4), 0);
         Check.same("3: the draft is empty then", office.draft(3, 4), 1);
         Check.same("3: the next draft", office.draft(5, 6), 2);
         Check.same("3: the second", office.lay(), 1);
@@ -130,8 +106,8 @@ public final class PromiseTest {
         Check.same("3: the first keeps its end", office.point(0, 1), 304);
         Check.same("3: the second's beginning", office.point(1, 0), 304);
         Check.same("3: the second's end", office.point(1, 1), 506);
-        Check.same("3: eight points", cable(office, 0, 0, 1, 0, 2, 0, 3, 0, 4, 0, 5, 0, 6, 0, 7, 0), 2);
-        Check.same("3: two points after eight", cable(office, 8, 8, 9, 9), 3);
+        Check.same("3: eight points", Offices.cable(office, 0, 0, 1, 0, 2, 0, 3, 0, 4, 0, 5, 0, 6, 0, 7, 0), 2);
+        Check.same("3: two points after eight", Offices.cable(office, 8, 8, 9, 9), 3);
         Check.fails("3: no third point", NO_SUCH, () -> office.point(3, 2));
     }
 
@@ -144,7 +120,7 @@ public final class PromiseTest {
         Check.same("3: two points", office.lay(), 0);
         Check.fails("3: empty again", STATE, () -> office.lay());
         for (int k = 1; k < 8; k++) {
-            Check.same("3: the next number", cable(office, k, k, 50, 50), k);
+            Check.same("3: the next number", Offices.cable(office, k, k, 50, 50), k);
         }
         office.draft(1, 1);
         office.draft(2, 2);
@@ -156,7 +132,7 @@ public final class PromiseTest {
     // ---- promise 4
 
     private static void move() {
-        CableOffice office = comb(3);
+        CableOffice office = Offices.comb(3);
         for (int k = 1; k <= 3; k++) {
             office.agree(k, 0);
         }
@@ -178,7 +154,7 @@ public final class PromiseTest {
 
     private static void moveOfNeighbours() {
         CableOffice office = new CableOffice();
-        cable(office, 1, 1, 2, 2, 3, 3, 4, 4);
+        Offices.cable(office, 1, 1, 2, 2, 3, 3, 4, 4);
         Check.fails("4: the place ahead", STATE, () -> office.move(0, 1, 1, 1));
         Check.fails("4: the place behind", STATE, () -> office.move(0, 1, 3, 3));
         Check.fails("4: the first to the second", STATE, () -> office.move(0, 0, 2, 2));
@@ -188,13 +164,13 @@ public final class PromiseTest {
         Check.same("4: the place of the last, by the first", office.move(0, 0, 3, 3), 0);
         Check.same("4: the same x as the one ahead", office.move(0, 1, 3, 4), 0);
         Check.same("4: the same y as the one ahead", office.move(0, 1, 4, 3), 0);
-        cable(office, 9, 9, 8, 8, 9, 9);
-        cable(office, 7, 7, 6, 6);
+        Offices.cable(office, 9, 9, 8, 8, 9, 9);
+        Offices.cable(office, 7, 7, 6, 6);
         Check.same("4: a place that an earlier draft had behind", office.move(2, 1, 9, 9), 0);
     }
 
     private static void moveThrows() {
-        CableOffice office = comb(1);
+        CableOffice office = Offices.comb(1);
         Check.fails("4: cable -1", NO_SUCH, () -> office.move(-1, 0, 1, 1));
         Check.fails("4: cable 2", NO_SUCH, () -> office.move(2, 0, 1, 1));
         Check.fails("4: point -1", NO_SUCH, () -> office.move(0, -1, 1, 1));
@@ -229,7 +205,7 @@ public final class PromiseTest {
 
     private static void point() {
         CableOffice office = new CableOffice();
-        cable(office, 0, 7, 12, 34, 99, 99);
+        Offices.cable(office, 0, 7, 12, 34, 99, 99);
         Check.same("6: a point with x 0", office.point(0, 0), 7);
         Check.same("6: a point", office.point(0, 1), 1234);
         Check.same("6: the last point", office.point(0, 2), 9999);
@@ -244,8 +220,8 @@ public final class PromiseTest {
 
     private static void crossings() {
         CableOffice office = new CableOffice();
-        cable(office, 0, 0, 10, 0, 10, 5, 0, 5);
-        cable(office, 4, 9, 4, 2, 6, 2, 6, 9);
+        Offices.cable(office, 0, 0, 10, 0, 10, 5, 0, 5);
+        Offices.cable(office, 4, 9, 4, 2, 6, 2, 6, 9);
         Check.same("7: two legs", office.crossings(0, 1), 2);
         Check.same("7: the other way round", office.crossings(1, 0), 2);
         Check.same("7: with itself", office.crossings(0, 0), 0);
@@ -257,17 +233,17 @@ public final class PromiseTest {
         Check.same("7: an end on a piece", office.crossings(0, 1), 5);
         office.move(1, 0, 4, 4);
         Check.same("7: ahead of the piece", office.crossings(0, 1), 4);
-        cable(office, 11, 0, 20, 0);
+        Offices.cable(office, 11, 0, 20, 0);
         Check.same("7: on one line, apart", office.crossings(0, 2), 0);
         office.move(2, 0, 10, 0);
         Check.same("7: on one line, end on end, and the corner", office.crossings(0, 2), 2);
-        cable(office, 0, 2, 1, 4);
-        cable(office, 0, 4, 1, 3);
+        Offices.cable(office, 0, 2, 1, 4);
+        Offices.cable(office, 0, 4, 1, 3);
         Check.same("7: at a place of no whole numbers", office.crossings(3, 4), 1);
     }
 
     private static void crossingsThrow() {
-        CableOffice office = comb(1);
+        CableOffice office = Offices.comb(1);
         for (int wrong : new int[] {-1, 2, 8, Integer.MIN_VALUE, Integer.MAX_VALUE}) {
             Check.fails("7: one " + wrong, NO_SUCH, () -> office.crossings(wrong, 0));
             Check.fails("7: other " + wrong, NO_SUCH, () -> office.crossings(0, wrong));
@@ -288,8 +264,8 @@ public final class PromiseTest {
 
     private static void crossingsAnew() {
         CableOffice office = new CableOffice();
-        cable(office, 0, 0, 9, 0, 9, 9);
-        cable(office, 5, 5, 12, 5);
+        Offices.cable(office, 0, 0, 9, 0, 9, 9);
+        Offices.cable(office, 5, 5, 12, 5);
         Check.same("8: one", office.crossingsAnew(0, 1), 1);
         Check.same("8: the other way round", office.crossingsAnew(1, 0), 1);
         Check.same("8: with itself", office.crossingsAnew(0, 0), 0);
@@ -304,8 +280,8 @@ public final class PromiseTest {
 
     private static void isWell() {
         CableOffice office = new CableOffice();
-        cable(office, 0, 0, 10, 0);
-        cable(office, 5, 0, 8, 3);
+        Offices.cable(office, 0, 0, 10, 0);
+        Offices.cable(office, 5, 0, 8, 3);
         Check.same("9: at 45 degrees", office.isWell(0, 1), true);
         Check.same("9: the other way round", office.isWell(1, 0), true);
         office.move(1, 1, 9, 3);
@@ -320,7 +296,7 @@ public final class PromiseTest {
         office.move(1, 0, 5, 1);
         office.move(1, 1, 5, 9);
         Check.same("9: steep, but they do not cross", office.isWell(0, 1), false);
-        cable(office, 2, 5, 2, 0, 4, 3, 9, 0);
+        Offices.cable(office, 2, 5, 2, 0, 4, 3, 9, 0);
         Check.same("9: one of two pieces is flat", office.isWell(0, 2), false);
         office.move(2, 3, 9, 1);
         Check.same("9: the flat one ends ahead", office.isWell(0, 2), true);
@@ -329,7 +305,7 @@ public final class PromiseTest {
     // ---- promises 10 and 11
 
     private static void agree() {
-        CableOffice office = comb(3);
+        CableOffice office = Offices.comb(3);
         Check.same("10: three are bare, two then", office.agree(0, 2), 2);
         Check.same("10: the upper first", office.agree(3, 0), 1);
         Check.same("10: the last", office.agree(0, 1), 0);
@@ -337,8 +313,8 @@ public final class PromiseTest {
     }
 
     private static void agreeThrows() {
-        CableOffice office = comb(2);
-        cable(office, 0, 3, 9, 5);
+        CableOffice office = Offices.comb(2);
+        Offices.cable(office, 0, 3, 9, 5);
         Check.fails("10: with itself", STATE, () -> office.agree(1, 1));
         Check.fails("10: they do not cross", STATE, () -> office.agree(1, 2));
         Check.fails("10: they cross flatly", STATE, () -> office.agree(0, 3));
@@ -352,19 +328,19 @@ public final class PromiseTest {
     }
 
     private static void isAgreed() {
-        CableOffice office = comb(2);
+        CableOffice office = Offices.comb(2);
         Check.same("11: not at first", office.isAgreed(0, 1), false);
         office.agree(0, 1);
         Check.same("11: then", office.isAgreed(0, 1), true);
         Check.same("11: the other way round", office.isAgreed(1, 0), true);
         Check.same("11: not another pair", office.isAgreed(0, 2), false);
         Check.same("11: not a cable with itself", office.isAgreed(0, 0), false);
-        cable(office, 5, 5, 6, 6);
+        Offices.cable(office, 5, 5, 6, 6);
         Check.same("11: laying changes nothing", office.isAgreed(0, 1), true);
     }
 
     private static void agreementsFall() {
-        CableOffice office = comb(2);
+        CableOffice office = Offices.comb(2);
         office.agree(0, 1);
         office.agree(0, 2);
         Check.same("11: another stands, when it moves away", office.move(1, 1, 1, 1), 1);
@@ -381,11 +357,11 @@ public final class PromiseTest {
     // ---- promise 12
 
     private static void bare() {
-        CableOffice office = comb(0);
+        CableOffice office = Offices.comb(0);
         Check.same("12: one cable", office.bare(), 0);
-        cable(office, 1, 0, 1, 9);
+        Offices.cable(office, 1, 0, 1, 9);
         Check.same("12: one pair", office.bare(), 1);
-        cable(office, 0, 4, 9, 4);
+        Offices.cable(office, 0, 4, 9, 4);
         Check.same("12: flat pairs too", office.bare(), 3);
         office.agree(1, 2);
         Check.same("12: less the agreed", office.bare(), 2);
@@ -430,8 +406,8 @@ public final class PromiseTest {
 
     private static void tell() {
         CableOffice office = new CableOffice();
-        everywhere(office, 0, 0);
-        everywhere(office, 0, 0);
+        Offices.everywhere(office, 0, 0);
+        Offices.everywhere(office, 0, 0);
         Check.same("14: the first", office.tell(0, 7), 7);
         Check.same("14: rounded down", office.tell(0, 4), 5);
         Check.same("14: of another ground", office.tell(1, 1000000), 1000000);
@@ -443,7 +419,7 @@ public final class PromiseTest {
     private static void tellThrows() {
         CableOffice office = new CableOffice();
         Check.fails("14: no ground", NO_SUCH, () -> office.tell(0, 5));
-        everywhere(office, 0, 0);
+        Offices.everywhere(office, 0, 0);
         Check.fails("14: ground 1", NO_SUCH, () -> office.tell(1, 5));
         Check.fails("14: ground -1", NO_SUCH, () -> office.tell(-1, 5));
         Check.fails("14: the ground ahead of the amount", NO_SUCH, () -> office.tell(1, -1));
@@ -455,7 +431,7 @@ public final class PromiseTest {
         }
         Check.fails("14: catch 101", STATE, () -> office.tell(0, 0));
         Check.fails("14: the amount ahead of the 101st", ARGUMENT, () -> office.tell(0, -1));
-        everywhere(office, 0, 0);
+        Offices.everywhere(office, 0, 0);
         Check.same("14: another ground has its own hundred", office.tell(1, 3), 3);
     }
 
@@ -466,7 +442,7 @@ public final class PromiseTest {
         int[][] months = {{2, 4}, {10, 1}, {6, 6}, {0, 11}, {3, 2}};
         String[] closed = {"..###.......", "##........##", "......#.....", "############", "############"};
         for (int ground = 0; ground < 5; ground++) {
-            everywhere(office, months[ground][0], months[ground][1]);
+            Offices.everywhere(office, months[ground][0], months[ground][1]);
             for (int month = 0; month < 12; month++) {
                 Check.same("15: ground " + ground + " in " + month,
                         office.isClosed(ground, month), closed[ground].charAt(month) == '#');
@@ -484,7 +460,7 @@ public final class PromiseTest {
 
     private static void touches() {
         CableOffice office = new CableOffice();
-        cable(office, 10, 10, 20, 20, 30, 20);
+        Offices.cable(office, 10, 10, 20, 20, 30, 20);
         office.ground(12, 12, 15, 15, 0, 0);
         office.ground(0, 20, 20, 30, 0, 0);
         office.ground(16, 10, 20, 15, 0, 0);
@@ -511,9 +487,9 @@ public final class PromiseTest {
     }
 
     private static void touchesThrows() {
-        CableOffice office = comb(1);
+        CableOffice office = Offices.comb(1);
         Check.fails("16: no ground", NO_SUCH, () -> office.touches(0, 0, 0));
-        everywhere(office, 0, 0);
+        Offices.everywhere(office, 0, 0);
         Check.same("16: all there", office.touches(1, 0, 0), true);
         Check.fails("16: cable 2", NO_SUCH, () -> office.touches(2, 0, 0));
         Check.fails("16: cable -1", NO_SUCH, () -> office.touches(-1, 0, 0));
@@ -527,10 +503,10 @@ public final class PromiseTest {
 
     private static void lifted() {
         CableOffice office = new CableOffice();
-        cable(office, 0, 0, 9, 0, 9, 9);
-        cable(office, 3, 0, 3, 5, 0, 5);
-        cable(office, 1, 4, 1, 6);
-        cable(office, 2, 3, 5, 3);
+        Offices.cable(office, 0, 0, 9, 0, 9, 9);
+        Offices.cable(office, 3, 0, 3, 5, 0, 5);
+        Offices.cable(office, 1, 4, 1, 6);
+        Offices.cable(office, 2, 3, 5, 3);
         Check.same("17: all that lies above", office.lifted(0, 0), 3);
         Check.same("17: nothing above", office.lifted(0, 1), 1);
         Check.same("17: not what lies below", office.lifted(1, 0), 2);
@@ -550,7 +526,7 @@ public final class PromiseTest {
     // ---- promise 18
 
     private static void cost() {
-        CableOffice office = comb(2);
+        CableOffice office = Offices.comb(2);
         office.agree(0, 1);
         office.agree(0, 2);
         office.ground(0, 4, 0, 4, 3, 5);
@@ -577,8 +553,8 @@ public final class PromiseTest {
     }
 
     private static void costWithoutAgreement() {
-        CableOffice office = comb(2);
-        cable(office, 1, 8, 2, 8);
+        CableOffice office = Offices.comb(2);
+        Offices.cable(office, 1, 8, 2, 8);
         office.agree(0, 1);
         Check.same("18: a bare pair", office.cost(0, 0, 0), CableOffice.NONE);
         office.agree(0, 2);
@@ -591,7 +567,7 @@ public final class PromiseTest {
         Check.same("18: that pair is not lifted", office.cost(1, 0, 0), 20);
         office.agree(3, 2);
         Check.same("18: all agreed", office.cost(0, 0, 0), 40);
-        cable(office, 8, 0, 9, 4, 10, 0);
+        Offices.cable(office, 8, 0, 9, 4, 10, 0);
         Check.same("18: a bare pair of the piece", office.cost(0, 0, 0), CableOffice.NONE);
         Check.same("18: it crosses well", office.agree(4, 0), 0);
         Check.same("18: two pieces more", office.cost(0, 0, 0), 60);
@@ -600,7 +576,7 @@ public final class PromiseTest {
     // ---- promise 19
 
     private static void repair() {
-        CableOffice office = comb(1);
+        CableOffice office = Offices.comb(1);
         office.agree(0, 1);
         office.ground(0, 4, 0, 4, 11, 0);
         office.ground(1, 9, 1, 9, 0, 0);
@@ -618,8 +594,8 @@ public final class PromiseTest {
 
     private static void repairsEnd() {
         CableOffice office = new CableOffice();
-        cable(office, 0, 0, 9, 9);
-        everywhere(office, 0, 0);
+        Offices.cable(office, 0, 0, 9, 9);
+        Offices.everywhere(office, 0, 0);
         office.tell(0, 1000000);
         for (int k = 1; k <= 500; k++) {
             Check.same("19: repair " + k, office.repair(0, 0, 0), 1000010);
@@ -631,8 +607,8 @@ public final class PromiseTest {
     }
 
     private static void repairThrows() {
-        CableOffice office = comb(1);
-        everywhere(office, 0, 0);
+        CableOffice office = Offices.comb(1);
+        Offices.everywhere(office, 0, 0);
         office.tell(0, 5);
         Check.fails("19: a bare pair", STATE, () -> office.repair(0, 0, 0));
         Check.fails("19: cable 2", NO_SUCH, () -> office.repair(2, 0, 0));
@@ -652,9 +628,9 @@ public final class PromiseTest {
 
     private static void paid() {
         CableOffice office = new CableOffice();
-        cable(office, 0, 0, 9, 9);
-        everywhere(office, 0, 5);
-        everywhere(office, 5, 6);
+        Offices.cable(office, 0, 0, 9, 9);
+        Offices.everywhere(office, 0, 5);
+        Offices.everywhere(office, 5, 6);
         Check.same("20: at first", office.paid(0), 0);
         office.repair(0, 0, 0);
         Check.same("20: a price of 0", office.paid(0), 0);
@@ -675,11 +651,11 @@ public final class PromiseTest {
     private static void fullOffice() {
         CableOffice office = new CableOffice();
         for (int k = 0; k < 8; k += 2) {
-            cable(office, 0, 10 + k, 99, 10 + k);
-            cable(office, 10 + k, 0, 10 + k, 99);
+            Offices.cable(office, 0, 10 + k, 99, 10 + k);
+            Offices.cable(office, 10 + k, 0, 10 + k, 99);
         }
         for (int k = 0; k < 5; k++) {
-            everywhere(office, k, k + 1);
+            Offices.everywhere(office, k, k + 1);
             office.tell(k, 100 * k);
         }
         Check.same("12: each level one with each upright one", office.bare(), 16);
