@@ -37,6 +37,7 @@ public final class TermsBoundaryTest {
         possibleWithABarePairElsewhere();
         groundsPaidOnce();
         groundsOfLiftedPiecesAlone();
+        groundsOffAllPieces();
         Check.end("TermsBoundaryTest");
     }
 
@@ -124,30 +125,52 @@ public final class TermsBoundaryTest {
         int[][] uprights = {{5, 5, 5, 9}, {5, 1, 5, 5}};
         for (int[] one : ends) {
             for (int[] other : uprights) {
-                Check.same(sentence + "end on end", Offices.of(one, other).crossings(0, 1), 1);
+                Check.same(sentence + "end on end", crossings(one, other), 1);
             }
         }
         int[] level = {3, 5, 7, 5};
         int[][] meeting = {{3, 1, 3, 9}, {7, 1, 7, 9}, {5, 5, 5, 9}, {5, 1, 5, 5}};
         int[][] beside = {{2, 1, 2, 9}, {8, 1, 8, 9}, {5, 6, 5, 9}, {5, 1, 5, 4}};
         for (int k = 0; k < 4; k++) {
-            Check.same(sentence + "an end on a piece", Offices.of(level, meeting[k]).crossings(0, 1), 1);
-            Check.same(sentence + "one beside", Offices.of(level, beside[k]).crossings(0, 1), 0);
-            Check.same(sentence + "an end on a piece, below", Offices.of(meeting[k], level).crossings(0, 1), 1);
-            Check.same(sentence + "one beside, below", Offices.of(beside[k], level).crossings(0, 1), 0);
+            Check.same(sentence + "an end on a piece", crossings(level, meeting[k]), 1);
+            Check.same(sentence + "one beside", crossings(level, beside[k]), 0);
+            Check.same(sentence + "an end on a piece, below", crossings(meeting[k], level), 1);
+            Check.same(sentence + "one beside, below", crossings(beside[k], level), 0);
         }
+    }
+
+    /** How many cross, kept and anew, in both orders and each piece turned round. */
+    private static int crossings(int[] one, int[] other) {
+        int count = Offices.of(one, other).crossings(0, 1);
+        for (int[] below : new int[][] {one, turned(one)}) {
+            for (int[] above : new int[][] {other, turned(other)}) {
+                CableOffice office = Offices.of(below, above);
+                Check.same("crossings, turned round", office.crossings(0, 1), count);
+                Check.same("crossings, the other way round", office.crossings(1, 0), count);
+                Check.same("crossings anew", office.crossingsAnew(0, 1), count);
+                Check.same("crossings anew, the other way round", office.crossingsAnew(1, 0), count);
+            }
+        }
+        return count;
+    }
+
+    private static int[] turned(int[] piece) {
+        return new int[] {piece[2], piece[3], piece[0], piece[1]};
     }
 
     private static void anyPlaceOfThePlane() {
         String sentence = "any place of the plane, not one of whole numbers alone: ";
         int[] rising = {0, 0, 1, 1};
         int[] whole = {0, 0, 99, 99};
-        Check.same(sentence + "at halves", Offices.of(rising, new int[] {0, 1, 1, 0}).crossings(0, 1), 1);
-        Check.same(sentence + "at thirds", Offices.of(rising, new int[] {0, 1, 2, 0}).crossings(0, 1), 1);
-        Check.same(sentence + "of the longest", Offices.of(whole, new int[] {0, 99, 99, 0}).crossings(0, 1), 1);
+        Check.same(sentence + "at halves", crossings(rising, new int[] {0, 1, 1, 0}), 1);
+        Check.same(sentence + "at thirds", crossings(rising, new int[] {0, 1, 2, 0}), 1);
+        Check.same(sentence + "of the longest", crossings(whole, new int[] {0, 99, 99, 0}), 1);
         int[] nearly = {0, 0, 99, 98};
-        Check.same(sentence + "hardly", Offices.of(nearly, new int[] {1, 1, 98, 97}).crossings(0, 1), 1);
-        Check.same(sentence + "hardly not", Offices.of(nearly, new int[] {1, 1, 98, 98}).crossings(0, 1), 0);
+        Check.same(sentence + "hardly", crossings(nearly, new int[] {1, 1, 98, 97}), 1);
+        Check.same(sentence + "hardly not", crossings(nearly, new int[] {1, 1, 98, 98}), 0);
+        int[] low = {10, 15, 12, 16};
+        Check.same(sentence + "an end hardly below", crossings(low, new int[] {11, 15, 12, 10}), 0);
+        Check.same(sentence + "an end hardly above", crossings(low, new int[] {11, 16, 10, 20}), 0);
     }
 
     private static void piecesOnOneLine() {
@@ -157,14 +180,12 @@ public final class TermsBoundaryTest {
             {40, 20, 42, 21}, {18, 9, 20, 10}};
         int[] due = {1, 1, 1, 0, 1, 1, 1};
         for (int k = 0; k < due.length; k++) {
-            Check.same(sentence + k, Offices.of(slanted, sharing[k]).crossings(0, 1), due[k]);
+            Check.same(sentence + k, crossings(slanted, sharing[k]), due[k]);
         }
-        Check.same(sentence + "beyond", Offices.of(slanted, new int[] {42, 21, 44, 22}).crossings(0, 1), 0);
-        Check.same(sentence + "ahead", Offices.of(slanted, new int[] {16, 8, 18, 9}).crossings(0, 1), 0);
-        Check.same(sentence + "level, beyond", Offices.of(new int[] {1, 3, 4, 3}, new int[] {5, 3, 9, 3})
-                .crossings(0, 1), 0);
-        Check.same(sentence + "upright, beyond", Offices.of(new int[] {3, 1, 3, 4}, new int[] {3, 5, 3, 9})
-                .crossings(0, 1), 0);
+        Check.same(sentence + "beyond", crossings(slanted, new int[] {42, 21, 44, 22}), 0);
+        Check.same(sentence + "ahead", crossings(slanted, new int[] {16, 8, 18, 9}), 0);
+        Check.same(sentence + "level, beyond", crossings(new int[] {1, 3, 4, 3}, new int[] {5, 3, 9, 3}), 0);
+        Check.same(sentence + "upright, beyond", crossings(new int[] {3, 1, 3, 4}, new int[] {3, 5, 3, 9}), 0);
     }
 
     private static void piecesOfDifferentCables() {
@@ -212,9 +233,8 @@ public final class TermsBoundaryTest {
         boolean[] due = {true, false, true, true, true, false, true, false, true, false};
         for (int k = 0; k < due.length; k++) {
             int[] other = {40, 40, 40 + others[k][0], 40 + others[k][1]};
-            int[] back = {other[2], other[3], 40, 40};
             Check.same(sentence + k, isWell(slanted, other), due[k]);
-            Check.same(sentence + k + " turned round", isWell(slanted, back), due[k]);
+            Check.same(sentence + k + " turned round", isWell(slanted, turned(other)), due[k]);
             Check.same(sentence + k + " the other below", isWell(other, slanted), due[k]);
         }
     }
@@ -369,7 +389,9 @@ public final class TermsBoundaryTest {
     private static void groundOfOnePlace() {
         String sentence = "right from left, high from low: ";
         Check.same(sentence + "on the piece", touches(new int[] {0, 0, 4, 2}, 2, 1, 2, 1), true);
-        Check.same(sentence + "off the piece", touches(new int[] {0, 0, 4, 2}, 2, 2, 2, 2), false);
+        Check.same(sentence + "above the piece", touches(new int[] {0, 0, 4, 2}, 2, 2, 2, 2), false);
+        Check.same(sentence + "hardly above a piece", touches(new int[] {0, 0, 2, 1}, 1, 1, 1, 1), false);
+        Check.same(sentence + "hardly below a piece", touches(new int[] {0, 0, 2, 1}, 1, 0, 1, 0), false);
         Check.same(sentence + "on its line, beyond it", touches(new int[] {0, 0, 4, 2}, 6, 3, 6, 3), false);
         Check.same(sentence + "at its end", touches(new int[] {0, 0, 4, 2}, 4, 2, 4, 2), true);
         Check.same(sentence + "an upright ground", touches(new int[] {0, 0, 4, 2}, 3, 0, 3, 9), true);
@@ -377,8 +399,9 @@ public final class TermsBoundaryTest {
     }
 
     private static boolean touches(int[] piece, int left, int low, int right, int high) {
-        CableOffice office = Offices.of(piece);
+        CableOffice office = Offices.of(piece, turned(piece));
         office.ground(left, low, right, high, 0, 0);
+        Check.same("a piece that is turned round touches too", office.touches(1, 0, 0), office.touches(0, 0, 0));
         return office.touches(0, 0, 0);
     }
 
@@ -572,5 +595,18 @@ public final class TermsBoundaryTest {
         Check.same(sentence + "paid to the third", office.paid(2), 200);
         Check.same(sentence + "one beside the piece", office.paid(3), 0);
         Check.same(sentence + "off all pieces", office.paid(4), 0);
+    }
+
+    private static void groundsOffAllPieces() {
+        String sentence = "a place in common with a lifted piece, with no cable and no point to spare: ";
+        CableOffice office = fullOffice();
+        office.ground(50, 50, 50, 50, 0, 0);
+        office.tell(0, 100);
+        Check.same(sentence + "off all of them", office.cost(7, 6, 0), 10);
+        office.ground(7, 50, 7, 50, 0, 0);
+        office.tell(1, 1);
+        Check.same(sentence + "on the topmost", office.repair(7, 6, 0), 11);
+        Check.same(sentence + "paid to the one off them", office.paid(0), 0);
+        Check.same(sentence + "paid to the one on it", office.paid(1), 1);
     }
 }
